@@ -1060,6 +1060,7 @@ public final class CouplesPaving {
         private Text text;
         private int at;
         private int kind;
+        private int place;
         private int wrongPlace;
         private int fault;
         int faultPlace;
@@ -1079,7 +1080,8 @@ public final class CouplesPaving {
             faultPlace = NONE;
             tokens.cutAll();
             at = 0;
-            kind = tokens.kindOf(0);
+            kind = tokens.kindOf(at);
+            place = tokens.placeOf(at);
             for (int n = 0; n <= MOST_TOKENS && kind != Tokens.END && fault == 0; n++) {
                 takeTell();
             }
@@ -1098,22 +1100,19 @@ public final class CouplesPaving {
             return false;
         }
 
-        private boolean refuseHere(int why) {
-            return refuse(why, tokens.placeOf(at));
-        }
-
         // A token that no text goes on with is refused ahead of its room, so all ask for the kind first.
         private boolean accept(boolean hasRoom) {
             if (!hasRoom || at >= MOST_TOKENS) {
-                return refuseHere(ROOM);
+                return refuse(ROOM, place);
             }
             at++;
             kind = tokens.kindOf(at);
+            place = tokens.placeOf(at);
             return true;
         }
 
         private boolean acceptOf(int due) {
-            return kind == due ? accept(true) : refuseHere(SYNTAX);
+            return kind == due ? accept(true) : refuse(SYNTAX, place);
         }
 
         private boolean takeTell() {
@@ -1133,14 +1132,14 @@ public final class CouplesPaving {
             if (tell == Tokens.SEED) {
                 return accept(true) && takeSeed() && acceptOf(Tokens.SEMICOLON);
             }
-            return refuseHere(SYNTAX);
+            return refuse(SYNTAX, place);
         }
 
         // A wrong number is a fault only of a text without other faults, so reading goes on behind it.
         private boolean takeNumber(int least, int most) {
             int number = tokens.numberOf(at);
             if (kind == Tokens.INT && wrongPlace == NONE && (number < least || number > most)) {
-                wrongPlace = tokens.placeOf(at);
+                wrongPlace = place;
             }
             return acceptOf(Tokens.INT);
         }
@@ -1244,7 +1243,7 @@ public final class CouplesPaving {
             if (kind == Tokens.OPEN) {
                 return accept(nested < MOST_NESTED) && takeSum(nested + 1) && acceptOf(Tokens.CLOSE);
             }
-            return refuseHere(SYNTAX);
+            return refuse(SYNTAX, place);
         }
     }
 

@@ -92,6 +92,13 @@ public final class TextTest {
         faulty("square 4 4;;", 1, 11);
         faulty("square 44;", 1, 9);
         faulty("Square 4 4;", 1, 0);
+        faulty("xquare 4 4;", 1, 0);
+        faulty("squarx 4 4;", 1, 0);
+        faulty("asksz = 1;", 1, 0);
+        faulty("asks{ = 1;", 1, 4);
+        faulty("asks` = 1;", 1, 4);
+        faulty("seed 1: ;", 1, 6);
+        faulty("asks = 1/ /2;", 1, 10);
         faulty("seed -1;", 1, 5);
         faulty("seed 1; \u00e9", 1, 8);
         faulty("seed 1;\u0000", 1, 7);
