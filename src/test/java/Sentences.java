@@ -58,6 +58,13 @@ final class Sentences {
     static Sentences ofAll() {
         Sentences s = new Sentences();
         TextSentences.tell(s);
+        StoneSentences.tell(s);
+        LawSentences.tell(s);
+        SeasonSentences.tell(s);
+        PavingSentences.tell(s);
+        HillSentences.tell(s);
+        ToldSentences.tell(s);
+        HeldSentences.tell(s);
         return s;
     }
 
