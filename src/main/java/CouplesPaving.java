@@ -198,8 +198,7 @@ public final class CouplesPaving {
         int couple = 0;
         for (int cell = 0; cell < text.cells() && couple < MOST_COUPLES; cell++) {
             if (isFree(cell)) {
-                boolean down = (lineThere[cell / text.wide + 1] & every.bit(cell % text.wide)) != 0;
-                now.put(couple, cell, !down);
+                now.put(couple, cell, !every.isDown(lineThere, cell));
                 couple++;
             }
         }
@@ -633,8 +632,7 @@ public final class CouplesPaving {
         Arrays.fill(lineNow, 0);
         for (int c = 0; c < MOST_COUPLES; c++) {
             if (now.lies(c) && !now.flat[c]) {
-                int cell = now.first[c];
-                lineNow[cell / text.wide + 1] |= every.bit(cell % text.wide);
+                every.drawDown(lineNow, now.first[c]);
             }
         }
     }
@@ -898,15 +896,15 @@ public final class CouplesPaving {
         }
 
         boolean hasRight(int cell) {
-            return cell % wide + 1 < wide;
+            return Rows.columnOf(cell, wide) + 1 < wide;
         }
 
         boolean hasBelow(int cell) {
-            return cell / wide + 1 < high;
+            return Rows.rowOf(cell, wide) + 1 < high;
         }
 
         boolean isBlack(int cell) {
-            return (cell / wide + cell % wide) % 2 == 0;
+            return (Rows.rowOf(cell, wide) + Rows.columnOf(cell, wide)) % 2 == 0;
         }
     }
 
@@ -1029,9 +1027,9 @@ public final class CouplesPaving {
                 case 0:
                     return state.flat[couple] ? 1 : 0;
                 case 1:
-                    return state.first[couple] % state.wide;
+                    return Rows.columnOf(state.first[couple], state.wide);
                 case 2:
-                    return state.first[couple] / state.wide;
+                    return Rows.rowOf(state.first[couple], state.wide);
                 case 3:
                     return state.turned[couple];
                 case 4:
@@ -1541,19 +1539,37 @@ public final class CouplesPaving {
             }
         }
 
+        static int rowOf(int cell, int wide) {
+            return wide == 0 ? 0 : cell / wide;
+        }
+
+        static int columnOf(int cell, int wide) {
+            return wide == 0 ? 0 : cell % wide;
+        }
+
         int bit(int x) {
             return 1 << wide - 1 - x;
         }
 
+        boolean isDown(int[] line, int cell) {
+            return (line[rowOf(cell, wide) + 1] & bit(columnOf(cell, wide))) != 0;
+        }
+
+        void drawDown(int[] line, int cell) {
+            line[rowOf(cell, wide) + 1] |= bit(columnOf(cell, wide));
+        }
+
         void close(int cell) {
-            closed[cell / wide] |= bit(cell % wide);
+            closed[rowOf(cell, wide)] |= bit(columnOf(cell, wide));
         }
 
         void bind(int cell, boolean flat) {
+            int y = rowOf(cell, wide);
+            int mask = bit(columnOf(cell, wide));
             if (flat) {
-                onlyFlat[cell / wide] |= bit(cell % wide);
+                onlyFlat[y] |= mask;
             } else {
-                onlyDown[cell / wide] |= bit(cell % wide);
+                onlyDown[y] |= mask;
             }
         }
 
@@ -1716,7 +1732,7 @@ public final class CouplesPaving {
         }
 
         private int flatWithLeft(int cell) {
-            return cell % wide > 0 ? flatFrom[cell - 1] : 0;
+            return Rows.columnOf(cell, wide) > 0 ? flatFrom[cell - 1] : 0;
         }
 
         int lyingAcross(int cell) {

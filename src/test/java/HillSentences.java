@@ -242,7 +242,8 @@ final class HillSentences {
         Checks.due("from all ACROSS to all DOWN", large.way(6727), apart(hills(large), hills(paved("square 6 6;", 6727))) / 4);
     }
 
-    private static int[] turnsFrom(String text, int all, int start) {
+    /** From one paving to each by how many turns at least. */
+    static int[] turnsFrom(String text, int all, int start) {
         int[] far = new int[all];
         Arrays.fill(far, -1);
         far[start] = 0;

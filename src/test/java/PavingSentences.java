@@ -5,7 +5,7 @@ import java.util.List;
 /** Sentences on how many pavings there are, and on what they have in common: part III, promises 14 to 20 and 27. */
 final class PavingSentences {
     // How many ways there are to pave a square of 2 .. 6 by 2 .. 6, as the books have it.
-    private static final int[][] KNOWN = {
+    static final int[][] KNOWN = {
         {2, 3, 5, 8, 13},
         {3, 0, 11, 0, 41},
         {5, 11, 36, 95, 281},
@@ -114,7 +114,59 @@ final class PavingSentences {
         }
     }
 
+    private static int answer(CouplesPaving x, int question) {
+        switch (question) {
+            case 0: return x.all();
+            case 1: return x.rest();
+            case 2: return x.across(1);
+            case 3: return x.frozen(-1);
+            case 4: return x.more();
+            case 5: return x.shortBy();
+            case 6: return x.rank();
+            case 7: return x.hill(1, 1);
+            case 8: return x.way(1);
+            case 9: return x.farthest(0);
+            case 10: return x.lowest(0);
+            case 11: return x.turns(-1);
+            case 12: return x.cheapest(1);
+            case 13: return x.widows(0, 1);
+            case 14: return x.then(-1, 3);
+            case 15: return x.year(2, 20);
+            case 16: return x.fit(2, 2);
+            case 17: return x.look(2);
+            case 18: return x.farthest(1);
+            default: return x.lowest(1);
+        }
+    }
+
+    private static CouplesPaving asked(String text) {
+        CouplesPaving x = Checks.of(text);
+        x.tell(0, true);
+        x.tell(2, false);
+        return x;
+    }
+
+    // What was asked ahead changes no answer.
+    private static void nothingHappensByAsking() {
+        for (String text : new String[] {"square 4 4; loosens = 9 * left;", "square 4 2; stone 0 0 0; stone 0 1 0; stone 2 0 1; stone 3 0 1;",
+            "square 3 3; stone 0 0 0; hole 1 1; loosens = 20; seed 2;", "square 5 3; stone 1 0 1;"}) {
+            int[] fresh = new int[20];
+            for (int i = 0; i < 20; i++) {
+                fresh[i] = answer(asked(text), i);
+            }
+            for (int i = 0; i < 20; i++) {
+                CouplesPaving x = asked(text);
+                answer(x, i);
+                for (int j = 0; j < 20; j++) {
+                    Checks.due(text + " question " + j + " behind " + i, answer(x, (i + 7 * j) % 20), fresh[(i + 7 * j) % 20]);
+                    answer(x, i);
+                }
+            }
+        }
+    }
+
     private static void nothingHappens() {
+        nothingHappensByAsking();
         String text = "square 4 2; stone 1 0 0; stone 1 1 0; asks = 3 + turned; loosens = 100; lays = 5;";
         CouplesPaving x = Checks.of(text);
         x.tell(0, true);

@@ -1,17 +1,5 @@
-import java.util.ArrayDeque;
-import java.util.Arrays;
-import java.util.Deque;
-
 /** Promises 14 to 24 and 27: how many pavings there are, what lies alike, numbers, hills, ways, widows. */
 public final class PavingsTest {
-    // How many ways there are to pave a square of 2 .. 6 by 2 .. 6, as the books have it.
-    private static final int[][] KNOWN = {
-        {2, 3, 5, 8, 13},
-        {3, 0, 11, 0, 41},
-        {5, 11, 36, 95, 281},
-        {8, 0, 95, 0, 1183},
-        {13, 41, 281, 1183, 6728}};
-
     private PavingsTest() {
     }
 
@@ -37,7 +25,7 @@ public final class PavingsTest {
         for (int w = 2; w <= 6; w++) {
             for (int h = 2; h <= 6; h++) {
                 CouplesPaving x = Checks.of("square " + w + " " + h + ";");
-                Checks.due("all of " + w + " by " + h, x.all(), KNOWN[w - 2][h - 2]);
+                Checks.due("all of " + w + " by " + h, x.all(), PavingSentences.KNOWN[w - 2][h - 2]);
             }
         }
         Checks.due("5 by 5 without a corner", Checks.of("square 5 5; hole 4 4;").all(), 192);
@@ -198,35 +186,10 @@ public final class PavingsTest {
         }
     }
 
-    private static int[] turnsFrom(String text, int all, int start) {
-        int[] far = new int[all];
-        Arrays.fill(far, -1);
-        far[start] = 0;
-        Deque<Integer> open = new ArrayDeque<>();
-        open.add(start);
-        while (!open.isEmpty()) {
-            int i = open.remove();
-            CouplesPaving x = new CouplesPaving();
-            Checks.read(x, text);
-            x.pave(i);
-            x.hold(0);
-            for (int k = x.turns(-1) - 1; k >= 0; k--) {
-                x.turn(x.turns(k));
-                int j = x.rank();
-                if (far[j] < 0) {
-                    far[j] = far[i] + 1;
-                    open.add(j);
-                }
-                x.restore(0);
-            }
-        }
-        return far;
-    }
-
     private static void waysAreFewestTurns(String text) {
         int all = Checks.of(text).all();
         for (int i = 0; i < all; i++) {
-            int[] far = turnsFrom(text, all, i);
+            int[] far = HillSentences.turnsFrom(text, all, i);
             CouplesPaving x = Checks.of(text);
             x.pave(i);
             int longest = 0;

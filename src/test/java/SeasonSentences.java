@@ -326,7 +326,8 @@ final class SeasonSentences {
 
     private static void foretold() {
         String[] texts = {"square 6 4; seed 12; loosens = if which < 6 then 3 + age else stones;",
-            "square 4 4; seed 9999; loosens = 2 + top;", "square 2 2; loosens = 100 * which;", "square 2 3; loosens = season / 7 * 5; seed 100;"};
+            "square 4 4; seed 9999; loosens = 2 + top;", "square 2 2; loosens = 100 * which;", "square 2 3; loosens = season / 7 * 5; seed 100;",
+            "square 6 3; loosens = 4 * left; seed 31;", "square 3 6; loosens = 4 * top; seed 8;", "square 2 6; loosens = 20 * left + turned;"};
         for (String text : texts) {
             CouplesPaving x = Checks.of(text);
             x.pave(x.all() - 1);
@@ -405,6 +406,15 @@ final class SeasonSentences {
         }
     }
 
+    /** Of 20 SEEDS from this one on, how many have a LOT above 0 (the one less than 1) for a COUPLE in a season. */
+    private static int yearsOfOne(int seed, int couple, int season) {
+        int good = 0;
+        for (int k = 0; k < 20; k++) {
+            good += lot(seed + k, season, couple) < 1 ? 0 : 1;
+        }
+        return good;
+    }
+
     private static void years() {
         CouplesPaving x = Checks.of("stone 0 0 0; loosens = 100;");
         Checks.due("no SEASON, one SEED", x.year(0, 1), 1);
@@ -420,6 +430,9 @@ final class SeasonSentences {
         Checks.due("three SEASONS later", old.year(3, 7) * 10 + old.year(4, 7), 70);
         CouplesPaving one = Checks.of("stone 0 0 0; stone 2 0 0; loosens = if stones < 2 then 0 else which * 100;");
         Checks.due("one of two is enough", one.year(1, 5), 0);
+        CouplesPaving right = Checks.of("square 6 2; stone 4 0 0; stone 4 1 0; loosens = if left < 4 then 100 else if top < 1 then 0 else age * 20 - 79;");
+        Checks.due("by left and top as well", right.year(4, 9), 9);
+        Checks.due("seen in the fifth SEASON", right.year(5, 20), yearsOfOne(0, 1, 4));
         Checks.due("of an empty SQUARE", new CouplesPaving().year(60, 20), 20);
         CouplesPaving last = Checks.of("stone 0 0 0; loosens = if season < 59 then 0 else 100;");
         Checks.due("59 SEASONS", last.year(59, 20), 20);

@@ -59,6 +59,7 @@ final class TextSentences {
         s.of("A text with a FAULT changes nothing but the tape;", TextSentences::aFaultChangesNothing);
         s.of("else it is in place of the one ahead: season 0, nothing paid; nothing can be undone, nothing is TOLD,"
             + " SLOTS hold nothing.", TextSentences::inPlaceOfTheOneAhead);
+        s.of("else it is in place of the one ahead:", TextSentences::oneTextBehindAnother);
         s.terms(5);
         s.of("FAULTS of a text, the first by its place (a byte; the text's end: its length),", TextSentences::theFirstFault);
         s.of("of one place the least:", TextSentences::theLeastOfOnePlace);
@@ -120,6 +121,26 @@ final class TextSentences {
         Checks.faulty("a".repeat(2000), 1, 0);
         Checks.faulty("seed 1;" + "z".repeat(9), 1, 7);
         Checks.faulty("asks = " + "holes".repeat(2) + ";", 1, 7);
+        String[] words = {"square", "hole", "stone", "asks", "loosens", "lays", "seed"};
+        String[] vars = {"across", "left", "top", "turned", "age", "season", "which", "stones", "holes"};
+        for (int i = 0; i < words.length + vars.length; i++) {
+            String word = i < words.length ? words[i] : vars[i - words.length];
+            String ahead = i < words.length ? "" : "asks = ";
+            for (int c = 0; c < word.length(); c++) {
+                String other = word.substring(0, c) + (char) (word.charAt(c) ^ 1) + word.substring(c + 1);
+                Checks.faulty(ahead + other + " ;", 1, ahead.length());
+                String less = word.substring(0, c) + word.substring(c + 1);
+                Checks.faulty(ahead + less + " ;", 1, ahead.length());
+            }
+            Checks.faulty(ahead + word + "q;", 1, ahead.length());
+        }
+        String[] aheadOf = {"asks = ", "asks = if 1 < 2 ", "asks = if 1 < 2 then 3 "};
+        String[][] others = {{"hf", "ig", "iff", "i"}, {"uhen", "thee", "hen", "thenn"}, {"flse", "elsf", "lse", "elsee"}};
+        for (int i = 0; i < 3; i++) {
+            for (String other : others[i]) {
+                Checks.faulty(aheadOf[i] + other + " 1;", 1, aheadOf[i].length());
+            }
+        }
         // What is beside a .. z is no letter: the word ahead of it ends there.
         Checks.faulty("asks`", 1, 4);
         Checks.faulty("asks{", 1, 4);
@@ -355,6 +376,44 @@ final class TextSentences {
         Checks.faulty(bracket + "(1));", 2, bracket.length() + 1);
         String semicolon = "seed 1;".repeat(131) + "asks = 1 + 2 * 3";
         Checks.faulty(semicolon + " ;", 2, semicolon.length() + 1);
+        the401stOfEachTell();
+        theLongestLaw();
+    }
+
+    /** A sound text of just so many tokens, 12 at least. */
+    private static String tokens(int many) {
+        int fours = many % 3;
+        return "seed 1;".repeat((many - 4 * fours) / 3) + "asks=1;".repeat(fours);
+    }
+
+    // Each token of each tell is the 401st once; ahead of it, where the text ends, there is no ROOM's fault.
+    private static void the401stOfEachTell() {
+        String[] tells = {"square 4 4 ;", "hole 0 0 ;", "stone 0 0 0 ;", "asks = 1 ;", "loosens = which ;", "seed 1 ;",
+            "lays = if ( 1 ) < 2 then 3 * 4 else 5 - ( age / 6 ) ;"};
+        for (String tell : tells) {
+            String[] words = tell.split(" ");
+            int at = 0;
+            for (int i = 0; i < words.length; i++) {
+                String ahead = tokens(400 - i);
+                Checks.faulty(ahead + tell, 2, ahead.length() + at);
+                if (i > 0) {
+                    String cut = ahead + tell.substring(0, at);
+                    Checks.faulty(cut, 1, cut.length());
+                    Checks.faulty(cut + "? ;", 1, cut.length());
+                }
+                at += words[i].length() + 1;
+            }
+            Checks.sound(tokens(400 - words.length) + tell);
+        }
+    }
+
+    // Of 400 tokens 199 are numbers: all are looked at.
+    private static void theLongestLaw() {
+        for (String law : new String[] {"asks", "loosens", "lays"}) {
+            CouplesPaving x = Checks.of(law + "=" + "3-3+".repeat(99) + "37;");
+            x.lay(0, 0);
+            Checks.due("the longest law: " + law, law.equals("lays") ? x.count(6) : x.stone(0, law.equals("asks") ? 4 : 5), 37);
+        }
     }
 
     private static void oneMoreOfASort() {
@@ -393,6 +452,16 @@ final class TextSentences {
         Checks.faulty(six + "1+2*(", 2, 15);
         Checks.sound(six + "1)*(2" + ")".repeat(6) + "-" + "(".repeat(6) + "1" + ")".repeat(6) + ";");
         Checks.sound("lays=" + "(1)+".repeat(20) + "(1);");
+        String one = "(".repeat(6) + "1" + ")".repeat(6);
+        String[] parts = {"asks = if ", " < ", " then ", " else if 1 < ", " then 1 else ", ";"};
+        StringBuilder all = new StringBuilder();
+        for (int i = 0; i < parts.length - 1; i++) {
+            all.append(parts[i]);
+            Checks.faulty(all + "(" + one, 2, all.length() + 6);
+            Checks.faulty(all + "1 * (1 - " + one, 2, all.length() + 9 + 5);
+            all.append(one);
+        }
+        Checks.sound(all + ";");
         String inIf = "asks=if " + "(".repeat(6) + "1" + ")".repeat(6) + "<";
         Checks.faulty(inIf + "(".repeat(7), 2, inIf.length() + 6);
     }
@@ -450,7 +519,8 @@ final class TextSentences {
 
     private static void beyondTheSquare() {
         String square = "square 3 2; ";
-        String[] unfit = {"hole 3 0;", "hole 0 2;", "hole 5 5;", "hole 1 1; hole 1 1;", "hole 1 1; hole 0 0; hole 1 1;",
+        String[] unfit = {"hole 3 0;", "hole 4 0;", "hole 5 0;", "hole 0 2;",
+            "hole 0 3;", "hole 0 5;", "hole 5 5;", "stone 4 0 0;", "stone 5 0 0;", "stone 4 0 1;", "stone 0 3 0;", "stone 0 5 1;", "hole 1 1; hole 1 1;", "hole 1 1; hole 0 0; hole 1 1;",
             "stone 2 0 0;", "stone 0 1 1;", "stone 3 0 1;", "stone 0 2 0;", "stone 5 5 1;", "hole 0 0; stone 0 0 0;",
             "stone 0 0 0; hole 1 0;", "stone 0 0 1; hole 0 1;", "stone 0 0 0; stone 0 0 0;", "stone 0 0 0; stone 1 0 1;",
             "stone 0 0 1; stone 0 1 0;", "stone 0 0 0; stone 1 0 0;"};
@@ -515,6 +585,37 @@ final class TextSentences {
         x.lay(2, 0);
         Checks.due("LAYS not told", x.count(6), 0);
         Checks.due("the SEED not told", x.then(-1, 60), 2);
+    }
+
+    // Nothing of any text ahead is left, sound or not: each is as in a new object.
+    private static void oneTextBehindAnother() {
+        String lawful = "loosens=" + "1+".repeat(180) + "1;";
+        String[] texts = {holes(12) + "seed 7;", "square 3 3; stone 0 0 0; stone 1 2 0; asks = 7; seed 3;", stones(18) + "lays = which;",
+            lawful, "", lawful + "hole 3 3;", "seed 5; hole 1 1", "lays = 9; asks = 8; loosens = 7; stone 2 2 1;", "stone 0 0 0; stone 0 0 0;",
+            "square 2 2; hole 0 0; hole 1 1; hole 0 0;", "square 6 6; stone 5 0 1;", "hole 9 0; stone 0 0 1;", lawful, "hole 2 1; asks = 5;",
+            "square 2 5; stone 0 4 0; loosens = 40;", "stone 1 1 1; loosens = 86;", "square 5 5; hole 0 4; lays = 3 / 0;"};
+        for (int from = 0; from < texts.length; from++) {
+            CouplesPaving x = new CouplesPaving();
+            int[] due = Checks.state(x);
+            for (int i = 0; i < 4; i++) {
+                String text = texts[(from + i * (1 + from % 3)) % texts.length];
+                CouplesPaving fresh = new CouplesPaving();
+                int fault = Checks.read(fresh, text);
+                Checks.due("read of " + text, Checks.read(x, text), fault);
+                due = fault == 0 ? Checks.state(fresh) : due;
+                if (i == 3 && fault == 0) {
+                    Checks.due("what is to come", x.then(-1, 1), fresh.then(-1, 1));
+                    Checks.due("what is laid", x.lay(0, 0), fresh.lay(0, 0));
+                    Checks.due("LAYS", x.count(6), fresh.count(6));
+                    Checks.due("ALL", x.all(), fresh.all());
+                }
+            }
+            CouplesPaving last = new CouplesPaving();
+            for (int i = 0; i < 4; i++) {
+                Checks.read(last, texts[(from + i * (1 + from % 3)) % texts.length]);
+            }
+            Checks.sameState("four texts from " + from + " on", last, due);
+        }
     }
 
     // ---- promises 1 to 5

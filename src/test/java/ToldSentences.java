@@ -146,14 +146,13 @@ final class ToldSentences {
                 int[] cells = new int[6];
                 boolean[] across = new boolean[6];
                 int told = 0;
-                for (int c = i % 3; told < 6; c = (c + 5) % all.get(i).length) {
+                for (int n = 0; n < 200 && told < 6; n++) {
+                    int c = (i % 3 + 5 * n + n / 12) % all.get(i).length;
                     if (all.get(i)[c] >= 0) {
                         cells[told] = c;
                         across[told] = PavingSentences.isAcross(all.get(i), c) ^ (told == 5 && i % 2 == 1);
                         Checks.due("tell", x.tell(c, across[told]), told);
                         told++;
-                    } else {
-                        c++;
                     }
                 }
                 for (int k = 6; k >= 0; k--) {
