@@ -593,28 +593,21 @@ final class TextSentences {
         String[] texts = {holes(12) + "seed 7;", "square 3 3; stone 0 0 0; stone 1 2 0; asks = 7; seed 3;", stones(18) + "lays = which;",
             lawful, "", lawful + "hole 3 3;", "seed 5; hole 1 1", "lays = 9; asks = 8; loosens = 7; stone 2 2 1;", "stone 0 0 0; stone 0 0 0;",
             "square 2 2; hole 0 0; hole 1 1; hole 0 0;", "square 6 6; stone 5 0 1;", "hole 9 0; stone 0 0 1;", lawful, "hole 2 1; asks = 5;",
-            "square 2 5; stone 0 4 0; loosens = 40;", "stone 1 1 1; loosens = 86;", "square 5 5; hole 0 4; lays = 3 / 0;"};
-        for (int from = 0; from < texts.length; from++) {
-            CouplesPaving x = new CouplesPaving();
-            int[] due = Checks.state(x);
-            for (int i = 0; i < 4; i++) {
-                String text = texts[(from + i * (1 + from % 3)) % texts.length];
+            "square 2 5; stone 0 4 0; loosens = 40; seed 9999;", "stone 1 1 1; loosens = 86;", "square 5 5; hole 0 4; lays = 3 / 0;"};
+        for (String ahead : texts) {
+            for (String text : texts) {
                 CouplesPaving fresh = new CouplesPaving();
-                int fault = Checks.read(fresh, text);
-                Checks.due("read of " + text, Checks.read(x, text), fault);
-                due = fault == 0 ? Checks.state(fresh) : due;
-                if (i == 3 && fault == 0) {
-                    Checks.due("what is to come", x.then(-1, 1), fresh.then(-1, 1));
-                    Checks.due("what is laid", x.lay(0, 0), fresh.lay(0, 0));
-                    Checks.due("LAYS", x.count(6), fresh.count(6));
-                    Checks.due("ALL", x.all(), fresh.all());
+                CouplesPaving x = new CouplesPaving();
+                if (Checks.read(x, ahead) == 0) {
+                    Checks.read(x, "");
                 }
+                Checks.due("behind " + ahead + " read of " + text, Checks.read(x, text), Checks.read(fresh, text));
+                Checks.sameState(ahead + " and then " + text, x, Checks.state(fresh));
+                Checks.due("what is to come", x.then(-1, 1), fresh.then(-1, 1));
+                Checks.due("what is laid", x.lay(2, 1), fresh.lay(2, 1));
+                Checks.due("LAYS", x.count(6), fresh.count(6));
+                Checks.due("ALL", x.all(), fresh.all());
             }
-            CouplesPaving last = new CouplesPaving();
-            for (int i = 0; i < 4; i++) {
-                Checks.read(last, texts[(from + i * (1 + from % 3)) % texts.length]);
-            }
-            Checks.sameState("four texts from " + from + " on", last, due);
         }
     }
 
