@@ -1185,27 +1185,21 @@ public final class CouplesPaving {
             }
             text.laws.begin(law);
             for (int ifs = 0; kind == Tokens.IF && ifs <= MOST_IFS; ifs++) {
-                if (!accept(ifs < MOST_IFS) || !takeIf()) {
+                if (!accept(ifs < MOST_IFS) || !takeSum(0) || !acceptOf(Tokens.LESS)
+                        || !takeSum(0) || !acceptOf(Tokens.THEN)) {
                     return false;
                 }
+                int leap = text.laws.add(Laws.GO_UNLESS_LESS, NONE);
+                if (!takeSum(0) || !acceptOf(Tokens.ELSE)) {
+                    return false;
+                }
+                text.laws.add(Laws.ANSWER, 0);
+                text.laws.aimHere(leap);
             }
             if (!takeSum(0)) {
                 return false;
             }
             text.laws.add(Laws.ANSWER, 0);
-            return true;
-        }
-
-        private boolean takeIf() {
-            if (!takeSum(0) || !acceptOf(Tokens.LESS) || !takeSum(0) || !acceptOf(Tokens.THEN)) {
-                return false;
-            }
-            int leap = text.laws.add(Laws.GO_UNLESS_LESS, NONE);
-            if (!takeSum(0) || !acceptOf(Tokens.ELSE)) {
-                return false;
-            }
-            text.laws.add(Laws.ANSWER, 0);
-            text.laws.aimHere(leap);
             return true;
         }
 
